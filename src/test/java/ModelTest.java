@@ -54,12 +54,36 @@ public final class ModelTest {
                 call = before >= 0 ? before : 34;
             }
             before = call;
-            both(call, argument(call, 0), argument(call, 1), argument(call, 2));
+            int a = argument(call, 0);
+            int b = argument(call, 1);
+            for (int i = 0; i < 12 && random.nextInt(9) > 0 && !isPossible(call, a, b); i++) {
+                a = argument(call, 0);
+                b = argument(call, 1);
+            }
+            both(call, a, b, argument(call, 2));
             if (random.nextInt(20) == 0) {
                 lookAtAll();
             }
         }
         lookAtAll();
+    }
+
+    private boolean isPossible(int call, int a, int b) {
+        try {
+            switch (CALLS[call]) {
+                case "enter": return m.why(a, 0, 0) == 0;
+                case "leave": return m.why(a, 1, 0) == 0;
+                case "sit": return m.why(a, 10 + b, 0) == 0;
+                case "hang": return m.why(a, 20 + b, 0) == 0;
+                case "take": return m.why(a, 40 + b, 0) == 0;
+                case "hall": case "downIn": return m.guest(a, 1) > 0;
+                case "speak": return m.guest(a, 1) >= 0;
+                case "dryIn": return m.towel(a, 0) > 0;
+                default: return true;
+            }
+        } catch (IllegalArgumentException e) {
+            return false;
+        }
     }
 
     /** Mostly a number that there is, sometimes one beside it, seldom a far one. */
@@ -99,7 +123,8 @@ public final class ModelTest {
     private String setup(boolean broken) {
         StringBuilder s = new StringBuilder("bath ");
         int pegs = any(1, 16);
-        int[] numbers = {any(1, 12), pegs, any(0, pegs), any(1, 4), any(1, 6), any(1, 4), any(2, 60), any(0, 30)};
+        int towels = random.nextBoolean() ? pegs : any(0, pegs);
+        int[] numbers = {any(1, 12), pegs, towels, any(1, 4), any(1, 6), any(1, 4), random.nextBoolean() ? any(2, 9) : any(2, 60), any(0, 30)};
         for (int number : numbers) {
             s.append(number).append(random.nextInt(9) == 0 ? "\n " : " ");
         }
@@ -119,6 +144,10 @@ public final class ModelTest {
 
     private void orders(StringBuilder s, int depth, int count) {
         for (int i = 0; i < count; i++) {
+            if (depth == 0 && count > 3 && random.nextInt(3) == 0) {
+                s.append(random.nextBoolean() ? "wash;" : "wait " + any(1, 3) + ";");
+                continue;
+            }
             String name = NAMES[any(0, Math.min(NAMES.length, Math.max(1, m.size(0)) + (random.nextInt(30) == 0 ? 1 : 0)) - 1)];
             switch (any(0, 13)) {
                 case 0: case 1: s.append("enter ").append(name); break;
