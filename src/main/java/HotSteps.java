@@ -344,7 +344,6 @@ public final class HotSteps {
     }
 
     public int set(int what, int value) throws IllegalArgumentException {
-        need(what >= 6 && what <= 8);
         need(isSetting(what, value));
         history.record(now);
         int before = size(what);

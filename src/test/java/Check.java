@@ -68,11 +68,13 @@ final class Check {
 
     /** A call that must be refused with this code: nothing but account 9 changes. */
     static void refused(HotSteps x, String call, java.util.function.IntSupplier run, int code) {
-        String before = lookBut9(x);
+        String before = lookAtState(x);
         int account = x.account(9);
+        int changes = x.size(16);
         due(call, run.getAsInt(), code);
         due("account(9) behind " + call, x.account(9), account + 1);
-        dueText("all but account 9 behind " + call, lookBut9(x), before);
+        due("size(16) behind " + call, x.size(16), changes);
+        dueText("all but account 9 behind " + call, lookAtState(x), before);
     }
 
     static void put(HotSteps x, String text) {
@@ -114,14 +116,15 @@ final class Check {
         return signs.toString();
     }
 
-    /** All that the calls of "as it is now" tell, but the buffer. */
+    /** All that the calls of "as it is now" tell of the state, and account 9 and size 16. */
     static String look(HotSteps x) {
-        return lookBut9(x) + " " + x.account(9);
+        return lookAtState(x) + " " + x.account(9) + " " + x.size(16);
     }
 
-    static String lookBut9(HotSteps x) {
+    /** All of it that undoing restores: without account 9 and the number of changes. */
+    static String lookAtState(HotSteps x) {
         StringBuilder all = new StringBuilder();
-        for (int what = 0; what <= 16; what++) {
+        for (int what = 0; what <= 15; what++) {
             all.append(x.size(what)).append(' ');
         }
         for (int guest = 0; guest < x.size(0); guest++) {
@@ -155,7 +158,7 @@ final class Check {
         for (int what = 0; what <= 8; what++) {
             all.append(x.account(what)).append(' ');
         }
-        return all.append("\ngap ").append(x.gap()).toString();
+        return all.append("\ngap ").append(x.gap()).append(" silence ").append(x.silenceIn()).toString();
     }
 
     static void end(String test) {

@@ -122,6 +122,25 @@ public final class PromiseTest {
         due("2: full", x.feed(0, 0, 0x20, 0, 0), NONE);
         due("2: too early", x.load(), -21);
         due("2: at the end", x.errorPosition(), 600);
+        feedAtTheEnd();
+    }
+
+    /** With 599 bytes in the buffer two bytes of 1 are too many, wherever they stand; one is not. */
+    private static void feedAtTheEnd() {
+        HotSteps x = new HotSteps();
+        for (int i = 1; i <= 30; i++) {
+            x.feed(0x01010101, 0x01010101, 0x01010101, 0x01010101, i == 30 ? 0x01010001 : 0x01010101);
+        }
+        for (int one = 0; one < 20; one++) {
+            for (int two = 0; two < one; two++) {
+                int[] five = new int[5];
+                five[one / 4] |= 1 << 24 - one % 4 * 8;
+                five[two / 4] |= 1 << 24 - two % 4 * 8;
+                due("2: two too many", x.feed(five[0], five[1], five[2], five[3], five[4]), NONE);
+            }
+        }
+        due("2: 599", x.feed(0, 0, 0, 0, 0), 599);
+        due("2: 600", x.feed(0, 0, 0, 0x0100, 0), 600);
     }
 
     private static void promise3Load() {
@@ -163,6 +182,8 @@ public final class PromiseTest {
         error3(x, "Bath 4", 1, 0);
         error3(x, "guest 4", 1, 0);
         error3(x, "bathe 4", 1, 0);
+        error3(x, "math 4", 1, 0);
+        error3(x, "bats 4", 1, 0);
         error3(x, "bath 0", 2, 5);
         error3(x, "bath 13", 2, 5);
         error3(x, "bath -1", 1, 5);
@@ -232,6 +253,9 @@ public final class PromiseTest {
         due("4: names of a script", Check.load(x, "bath 2 2 2 1 1 1 2 0;guest again 20;guest enter 20"), 2);
         due("4: a guest named again", Check.play(x, "enter again; enter enter; sit enter 1;"), 3);
         due("4: enter sits", x.guest(1, 1), 1);
+        HotSteps y = Check.house("bath 1 16 16 4 6 1 2 0;guest a 99");
+        due("4: the largest numbers", Check.play(y, "enter a; hang a 0; take a 15; sit a 6; hall a; hang a 15; valve 3 9; wait 60; again 20 (wash;);"), 28);
+        due("4: and the least ones", Check.play(y, "take a 0; sit a 1; hall a; hang a 0; valve 0 0; wait 1; again 0 (wash;);"), 6);
         due("4: leading zeros", Check.play(x, "wait 0000000000000000000000000000001;"), 1);
     }
 
@@ -275,6 +299,9 @@ public final class PromiseTest {
         error4(x, "enter ada", 1, 9);
         error4(x, "enter ada ", 1, 10);
         error4(x, "enter 5;", 1, 6);
+        error4(x, "fait 5;", 1, 0);
+        error4(x, "waiu 5;", 1, 0);
+        error4(x, "wai 5;", 1, 0);
         error4(x, "enter abcdefg;", 2, 6);
         error4(x, "Enter ada;", 1, 0);
         error4(x, "ada;", 1, 0);
@@ -613,7 +640,10 @@ public final class PromiseTest {
         why(x, 0, 0, 2, 101);
         x.waits(1);
         why(x, 0, 0, 3, 202);
-        x.leave(1);
+        x.waits(3);
+        Check.play(x, "speak b; speak b; speak b;");
+        due("16: sent on day 1", x.guest(1, 8), 1);
+        why(x, 1, 0, 2, 100 + 597);
         x.leave(2);
         due("16: all in the basket", x.size(13), 3);
         why(x, 0, 0, 4, 0);
@@ -786,6 +816,9 @@ public final class PromiseTest {
         Check.dueDouble("20: 1 of 5", x.meanWet(), 1.0 / 5.0);
         x.waits(2);
         Check.dueDouble("20: 3 of 5", x.meanWet(), 3.0 / 5.0);
+        HotSteps z = Check.house("bath 1 1 1 1 1 1 2 0; guest a 9");
+        Check.play(z, "enter a; sit a 1; wait 2;");
+        Check.dueDouble("20: of one", z.meanWet(), 2.0);
         Check.dueDouble("20: without any", Check.house("bath 1 1 0 1 1 1 2 0").meanWet(), 0.0);
         HotSteps y = Check.house("bath 3 3 3 1 1 3 2 0; guest a 9; guest b 9");
         Check.play(y, "enter a; enter b; sit a 1; wait 1; sit b 1; wait 1; hall a; leave a;");
@@ -944,6 +977,8 @@ public final class PromiseTest {
         due("25: never", x.silenceIn(), NONE);
         x.set(8, 30);
         due("25: again now", x.silenceIn(), 0);
+        x.set(8, 1);
+        due("25: one minute", x.silenceIn(), 3);
         x.set(8, 5);
         x.set(7, 60);
         due("25: 60", x.silenceIn(), 35);
@@ -1264,6 +1299,55 @@ public final class PromiseTest {
         due("36: dries below 60 alone", y.towel(0, 0), 6);
         y.waits(10);
         due("36: not in the heat", y.towel(0, 0), 6);
+        strainByOne();
+        dryAt59();
+    }
+
+    /** One degree above what a guest bears, and exactly that; on a step strain becomes less, too. */
+    private static void strainByOne() {
+        HotSteps x = Check.house("bath 9 9 8 4 4 1 60 0; guest a 4; guest b 0");
+        Check.play(x, "enter a; enter b; valve 0 9; valve 1 9; valve 2 7; wait 1;");
+        due("36: heat 51", x.size(10), 51);
+        Check.play(x, "valve 0 9; valve 1 0; valve 2 0; sit a 1; wait 1;");
+        due("36: heat 55", x.size(10), 55);
+        due("36: 61 is what a bears", x.step(1, 1) - x.guest(0, 6), 0);
+        due("36: no strain", x.guest(0, 4), 0);
+        Check.play(x, "valve 0 6; wait 1;");
+        due("36: one above", x.step(1, 1) - x.guest(0, 6), 1);
+        due("36: strain 1", x.guest(0, 4), 1);
+        Check.play(x, "valve 0 5; wait 7;");
+        due("36: strain 8", x.guest(0, 4), 8);
+        x.waits(1);
+        due("36: strain 9 is not too much", x.guest(0, 1) * 10 + x.guest(0, 4), 19);
+        due("36: strain 10 is", x.downIn(0), 1);
+        Check.play(x, "valve 0 0; wait 1;");
+        due("36: less on a step", x.guest(0, 1) * 10 + x.guest(0, 4), 18);
+        x.waits(1);
+        due("36: less again", x.guest(0, 4), 7);
+        Check.play(x, "valve 0 8; wait 1; valve 0 5; wait 3;");
+        due("36: heat", x.size(10), 49);
+        due("36: and less", x.guest(0, 4), 3);
+        Check.play(x, "valve 0 9; valve 1 9; valve 2 2; wait 1;");
+        due("36: nine above", x.step(1, 1) - x.guest(0, 6), 9);
+        due("36: 9 divided by 5, and 1", x.guest(0, 4), 5);
+    }
+
+    private static void dryAt59() {
+        HotSteps x = Check.house("bath 9 9 8 4 4 1 60 0; guest a 4; guest b 0");
+        Check.play(x, "enter a; sit a 1; wait 3; hall a; hang a 8; valve 0 9; valve 1 9; valve 2 9; valve 3 9;");
+        due("36: heat", x.size(10), 18);
+        x.waits(1);
+        due("36: heat", x.size(10), 51);
+        Check.play(x, "valve 0 9; valve 1 4; valve 2 0; valve 3 0; wait 1;");
+        due("36: heat 59", x.size(10), 59);
+        due("36: it dries at 59", x.towel(0, 0), 1);
+        due("36: it would not at 60", x.ifValve(1, 0), 63);
+        Check.play(x, "valve 0 6; valve 1 0; wait 1;");
+        due("36: heat 60", x.size(10), 60);
+        due("36: it does not at 60", x.towel(0, 0), 1);
+        due("36: dryIn at 60", x.dryIn(0), NONE);
+        Check.play(x, "valve 0 5;");
+        due("36: dryIn at 59", x.dryIn(0), 1);
     }
 
     private static void strains(HotSteps x, int... want) {
@@ -1350,7 +1434,7 @@ public final class PromiseTest {
             () -> x.speak(0), () -> x.speak(0), () -> x.wash(), () -> x.set(6, 1), () -> Check.play(x, "leave ben; wait 3;"), () -> x.hang(0, 0)};
         int recorded = 0;
         for (int i = 0; i < 11; i++) {
-            looks[i] = Check.lookBut9(x);
+            looks[i] = Check.lookAtState(x);
             changes[i].run();
             recorded++;
             due("40: size(16)", x.size(16), Math.min(8, recorded));
@@ -1361,9 +1445,7 @@ public final class PromiseTest {
         Check.put(x, "eli");
         for (int i = 10; i >= 3; i--) {
             due("40: undo", x.undo(), i - 3);
-            String looked = looks[i].substring(looks[i].indexOf('\n'));
-            String now = Check.lookBut9(x);
-            Check.dueText("40: as before change " + i, now.substring(now.indexOf('\n')), looked);
+            Check.dueText("40: as before change " + i, Check.lookAtState(x), looks[i]);
             due("40: size(16)", x.size(16), i - 3);
         }
         due("40: 8 and no more", x.undo(), NONE);
@@ -1383,6 +1465,35 @@ public final class PromiseTest {
         x.undo();
         x.set(8, 30);
         due("40: no gong any more", x.size(15), 0);
+        undoOfEach();
+    }
+
+    /** Each change is undone at once, and with others behind it. */
+    private static void undoOfEach() {
+        HotSteps x = Check.house("bath 4 6 5 4 4 2 3 30; guest a 30; guest b 8; guest c 61");
+        Check.play(x, "enter a; enter b; sit a 2; sit b 1; wait 3; speak a; speak a; speak b; hall b; hang b 5;");
+        String first = Check.lookAtState(x);
+        Runnable[] changes = {() -> x.enter(2), () -> x.sit(0, 4), () -> x.hall(0), () -> x.take(1, 3), () -> x.leave(1), () -> x.speak(0),
+            () -> x.speak(1), () -> x.valve(3, 9), () -> x.waits(5), () -> x.set(6, 1), () -> x.set(7, 7), () -> x.set(8, 0),
+            () -> Check.play(x, HOT)};
+        for (int i = 0; i < changes.length; i++) {
+            changes[i].run();
+            due("40: change " + i + " changed something", Check.lookAtState(x).equals(first) ? 1 : 0, 0);
+            x.undo();
+            Check.dueText("40: change " + i + " undone", Check.lookAtState(x), first);
+        }
+        Check.play(x, "sit a 4;" + HOT);
+        String hot = Check.lookAtState(x);
+        due("40: strain", x.guest(0, 4) > 0 ? 1 : 0, 1);
+        for (int i = 0; i < 6; i++) {
+            x.waits(1);
+        }
+        for (int i = 0; i < 6; i++) {
+            x.undo();
+        }
+        Check.dueText("40: minutes undone", Check.lookAtState(x), hot);
+        x.undo();
+        Check.dueText("40: all undone", Check.lookAtState(x), first);
     }
 
     private static void promise41Save() {
@@ -1410,7 +1521,7 @@ public final class PromiseTest {
         Check.play(x, "enter ada; enter ben; sit ada 4; wait 21; speak ada; valve 0 3; hang ben 0;");
         x.set(6, 3);
         Check.refused(x, "42: refused", () -> x.hall(1), -3);
-        String saved = behindSizes(x);
+        String saved = Check.lookAtState(x);
         due("42: save", x.save(1), 21);
         Check.play(x, "hall ada; leave ada; wait 60; wash; valve 1 5;");
         x.set(6, 1);
@@ -1420,7 +1531,7 @@ public final class PromiseTest {
         Check.put(x, "ben");
         Check.refused(x, "42: refused again", () -> x.enter(1), -2);
         due("42: restore", x.restore(1), 21);
-        Check.dueText("42: as it was", behindSizes(x), saved);
+        Check.dueText("42: as it was", Check.lookAtState(x), saved);
         due("42: room", x.size(6), 3);
         due("42: gong", x.size(7), 20);
         due("42: quiet", x.size(8), 5);
@@ -1433,15 +1544,9 @@ public final class PromiseTest {
         x.waits(9);
         due("42: the slot stays", x.restore(1), 21);
         Check.findsNothing(x, "42: the other slot", () -> x.restore(0));
-        Check.dueText("42: as it was again", behindSizes(x), saved);
+        Check.dueText("42: as it was again", Check.lookAtState(x), saved);
         x.waits(1);
         due("42: what comes then can be undone", x.undo(), 0);
         due("42: the slot is apart from now", x.restore(1), 21);
-    }
-
-    /** All that save keeps, as text. */
-    private static String behindSizes(HotSteps x) {
-        String all = Check.lookBut9(x);
-        return all.substring(all.indexOf('\n'));
     }
 }
