@@ -58,7 +58,43 @@ public final class PromiseTest {
         promise40Undo();
         promise41Save();
         promise42Restore();
+        fullHouse();
         Check.end("PromiseTest");
+    }
+
+    /** As much of all as the document allows: every row is used up to its end. */
+    private static void fullHouse() {
+        StringBuilder setup = new StringBuilder("bath 12 16 16 4 6 9 60 30");
+        for (int guest = 0; guest < 16; guest++) {
+            setup.append(";guest abcde").append((char) ('a' + guest)).append(guest == 0 ? 99 : 90);
+        }
+        HotSteps x = Check.house(setup.toString());
+        due("full: last letter of the last name", x.letter(15, 5), 'p');
+        Check.put(x, "abcdep");
+        due("full: find", x.find(), 15);
+        Check.play(x, "");
+        for (int guest = 0; guest < 12; guest++) {
+            due("full: enter", x.enter(guest), guest);
+            due("full: sit", x.sit(guest, guest < 9 ? 6 : 5), guest < 9 ? 66 : 60);
+        }
+        due("full: no locker", x.why(15, 0, 1), 212);
+        due("full: no room", x.why(11, 16, 1), 400);
+        due("full: room on 5", x.highest(11), 5);
+        due("full: guests on 6", x.step(6, 0), 9);
+        due("full: eldest", x.step(6, 3), 0);
+        due("full: eldest on 5", x.step(5, 3), 9);
+        due("full: wait", x.waits(1), 0);
+        Check.dueDouble("full: meanWet", x.meanWet(), 12.0 / 16.0);
+        Check.play(x, "valve 0 9; valve 1 9; valve 2 9; valve 3 7; wait 1;");
+        due("full: heat", x.size(10), 56);
+        due("full: 92 is above 84", x.step(6, 4), 9);
+        due("full: 86 is above 82 and 84", x.step(5, 4), 3);
+        due("full: strain", x.guest(0, 4) * 10 + x.guest(1, 4), 23);
+        due("full: report", Check.report(x).length(), "6: 5: 4: 3: 2: 1: h: p:-,-,-,-,-,-,-,-,-,-,-,-,12,13,14,15".length() + 12 * 7 - 2);
+        due("full: gap", x.gap(), 0);
+        due("full: last peg", x.peg(15), 15);
+        due("full: last locker", x.locker(11), 11);
+        due("full: last guest", x.guest(15, 0), 90);
     }
 
     private static void due(String call, long got, long want) {
