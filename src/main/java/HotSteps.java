@@ -245,7 +245,7 @@ public final class HotSteps {
         int strain = now.strain[guest];
         for (int minute = 1; minute <= MOST_AHEAD; minute++) {
             heat = State.heatBehind(heat, now.steam());
-            strain = now.strainBehind(guest, strain, heat + State.WARMER * step);
+            strain = State.strainBehind(strain, heat + State.WARMER * step - house.bears(guest));
             if (strain >= State.TOO_MUCH) {
                 return minute;
             }
@@ -816,7 +816,7 @@ public final class HotSteps {
             int least = DRY_ENOUGH + 1;
             for (int peg = 0; peg < house.pegs; peg++) {
                 int towel = towelOn[peg];
-                if (house.isTowel(towel) && wet[towel] < least) {
+                if (towel >= 0 && towel < wet.length && wet[towel] < least) {
                     driest = towel;
                     least = wet[towel];
                 }
@@ -884,9 +884,8 @@ public final class HotSteps {
             return heat < 60 ? Math.max(0, wet - 1) : wet;
         }
 
-        /** The strain of a guest on a step behind one minute, before it comes down. */
-        int strainBehind(int guest, int strain, int temperature) {
-            int above = temperature - house.bears(guest);
+        /** The strain on a step behind one minute, so much above what the guest bears; before it comes down. */
+        static int strainBehind(int strain, int above) {
             return above > 0 ? strain + above / 5 + 1 : Math.max(0, strain - 1);
         }
 
@@ -935,7 +934,7 @@ public final class HotSteps {
             if (where == HALL) {
                 strain[guest] = Math.max(0, strain[guest] - 1);
             } else if (where > HALL) {
-                strain[guest] = strainBehind(guest, strain[guest], temperature(where));
+                strain[guest] = strainBehind(strain[guest], temperature(where) - house.bears(guest));
             }
         }
 
