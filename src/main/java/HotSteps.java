@@ -703,9 +703,10 @@ public final class HotSteps {
             return count;
         }
 
-        int lowestAt(int step) {
+        /** The guest with the lowest number on a step, but for one who does not count there; NONE. */
+        int lowestBeside(int asking, int step) {
             for (int guest = 0; guest < house.guests; guest++) {
-                if (place[guest] == step) {
+                if (guest != asking && place[guest] == step) {
                     return guest;
                 }
             }
@@ -1040,7 +1041,7 @@ public final class HotSteps {
                 case 2: return 100 + now.minutesLeftToday();
                 case 3: return 200 + house.lockers;
                 case 7: return 300 + House.ageFor(deed - SIT) - house.age[guest];
-                case 8: return 400 + now.lowestAt(deed - SIT);
+                case 8: return 400 + now.lowestBeside(guest, deed - SIT);
                 case 9: return 500 + now.place[guest];
                 case 10: return 600 + (house.isPeg(deed - HANG) ? now.towelOn[deed - HANG] : NONE);
                 default: return 0;

@@ -18,8 +18,24 @@ final class Check {
     static void dueText(String call, String got, String want) {
         made++;
         if (!got.equals(want)) {
-            fault(call + " answered '" + got + "', due is '" + want + "'");
+            int at = firstDifference(got, want);
+            fault(call + " answered '" + around(got, at) + "', due is '" + around(want, at) + "', from sign " + at + " on");
         }
+    }
+
+    private static int firstDifference(String one, String other) {
+        int at = 0;
+        while (at < one.length() && at < other.length() && one.charAt(at) == other.charAt(at)) {
+            at++;
+        }
+        return at;
+    }
+
+    /** The text near a place: one of thousands of signs would hide what is wrong. */
+    private static String around(String text, int at) {
+        int from = Math.max(0, at - 40);
+        int to = Math.min(text.length(), at + 40);
+        return (from > 0 ? ".." : "") + text.substring(from, to) + (to < text.length() ? ".." : "");
     }
 
     static void dueDouble(String call, double got, double want) {

@@ -562,8 +562,8 @@ final class Model {
             int step = deed - 10;
             return g.towel == null ? new int[] {6, 0}
                 : g.age < 5 * (step - 1) ? new int[] {7, 300 + 5 * (step - 1) - g.age}
-                : w.there(step).stream().filter(o -> o != g).count() >= w.room
-                    ? new int[] {8, 400 + w.guests.indexOf(w.there(step).get(0))} : new int[] {0, 0};
+                : others(g, step).size() >= w.room
+                    ? new int[] {8, 400 + w.guests.indexOf(others(g, step).get(0))} : new int[] {0, 0};
         }
         if (g.step > 0) {
             return new int[] {9, 500 + g.step};
@@ -576,6 +576,10 @@ final class Model {
                 : w.hanging.containsKey(deed - 20) ? new int[] {10, 600 + w.hanging.get(deed - 20).number} : new int[] {0, 0};
         }
         return new int[] {0, 0};
+    }
+
+    private List<Guest> others(Guest g, int step) {
+        return w.there(step).stream().filter(o -> o != g).toList();
     }
 
     int highest(int guest) {

@@ -29,6 +29,7 @@ public final class PromiseTest {
         promise15Find();
         promise16WhyEnterAndLeave();
         promise16WhySit();
+        promise16CauseBesideItself();
         promise16WhyHangAndTake();
         promise16WhyRange();
         promise17Highest();
@@ -710,11 +711,47 @@ public final class PromiseTest {
         why(x, 2, 14, 0, 0);
         x.set(6, 1);
         why(x, 3, 13, 8, 402);
-        // c is there itself, and has the lowest number there
-        why(x, 2, 13, 8, 402);
+        // c has the lowest number there, but does not count itself
+        why(x, 2, 13, 8, 403);
         x.hall(2);
         why(x, 3, 13, 0, 0);
         why(x, 2, 13, 8, 403);
+    }
+
+    /** Those on a step, and others, ask for it when ROOM was made smaller than the number of those there. */
+    private static void promise16CauseBesideItself() {
+        HotSteps x = Check.house("bath 12 16 16 1 6 4 60 0; guest a 90; guest b 90; guest c 90; guest d 90; guest e 90; guest f 90; guest g 90");
+        for (int guest = 0; guest < 7; guest++) {
+            x.enter(guest);
+        }
+        for (int step = 1; step <= 6; step++) {
+            x.set(6, 4);
+            for (int guest = 2; guest < 6; guest++) {
+                x.sit(guest, step);
+            }
+            due("16: all have room", x.why(2, 10 + step, 0), 0);
+            for (int room = 1; room <= 3; room++) {
+                x.set(6, room);
+                why(x, 2, 10 + step, 8, 403);
+                for (int guest = 3; guest < 6; guest++) {
+                    why(x, guest, 10 + step, 8, 402);
+                }
+                why(x, 0, 10 + step, 8, 402);
+                why(x, 6, 10 + step, 8, 402);
+                due("16: refused", x.sit(2, step), -2);
+            }
+        }
+        HotSteps y = new HotSteps();
+        y.enter(0);
+        y.enter(1);
+        y.sit(0, 1);
+        y.sit(1, 1);
+        y.set(6, 1);
+        why(y, 0, 11, 8, 401);
+        why(y, 1, 11, 8, 400);
+        y.hall(1);
+        why(y, 0, 11, 0, 0);
+        why(y, 1, 11, 8, 400);
     }
 
     private static void promise16WhyHangAndTake() {
