@@ -4,8 +4,24 @@ import java.util.NoSuchElementException;
 final class Check {
     private static int wrong = 0;
     private static int made = 0;
+    private static String current = "";
 
     private Check() {
+    }
+
+    /** One test: its name, a promise and a case, stands ahead of each fault in it. */
+    static void test(String name, Runnable body) {
+        int before = made;
+        current = name + ": ";
+        try {
+            body.run();
+        } catch (RuntimeException e) {
+            fault("it threw " + e + " at " + e.getStackTrace()[0]);
+        }
+        if (made == before) {
+            fault("it looked at no answer");
+        }
+        current = "";
     }
 
     static void due(String call, long got, long want) {
@@ -48,38 +64,44 @@ final class Check {
     static void fault(String what) {
         wrong++;
         if (wrong <= 60) {
-            System.out.println(what);
+            System.out.println(current + what);
         }
     }
 
     /** The call must throw IllegalArgumentException, and change nothing. */
     static void refuses(HotSteps x, String call, Runnable run) {
-        made++;
         String before = look(x);
-        try {
-            run.run();
-            fault(call + " threw nothing, due is IllegalArgumentException");
-        } catch (RuntimeException e) {
-            if (e.getClass() != IllegalArgumentException.class) {
-                fault(call + " threw " + e + ", due is IllegalArgumentException");
-            }
-        }
+        isOutOfRange(call, run);
         dueText("all behind " + call, look(x), before);
     }
 
     /** The call must throw NoSuchElementException, and change nothing. */
     static void findsNothing(HotSteps x, String call, Runnable run) {
-        made++;
         String before = look(x);
+        isNotFound(call, run);
+        dueText("all behind " + call, look(x), before);
+    }
+
+    /** The call must throw IllegalArgumentException; what it leaves is looked at by refuses, which takes many calls. */
+    static void isOutOfRange(String call, Runnable run) {
+        throwsThis(IllegalArgumentException.class, call, run);
+    }
+
+    /** The call must throw NoSuchElementException; what it leaves is looked at by findsNothing. */
+    static void isNotFound(String call, Runnable run) {
+        throwsThis(NoSuchElementException.class, call, run);
+    }
+
+    private static void throwsThis(Class<? extends RuntimeException> due, String call, Runnable run) {
+        made++;
         try {
             run.run();
-            fault(call + " threw nothing, due is NoSuchElementException");
+            fault(call + " threw nothing, due is " + due.getSimpleName());
         } catch (RuntimeException e) {
-            if (e.getClass() != NoSuchElementException.class) {
-                fault(call + " threw " + e + ", due is NoSuchElementException");
+            if (e.getClass() != due) {
+                fault(call + " threw " + e + ", due is " + due.getSimpleName());
             }
         }
-        dueText("all behind " + call, look(x), before);
     }
 
     /** A call that must be refused with this code: nothing but account 9 changes. */
@@ -123,6 +145,57 @@ final class Check {
         return x;
     }
 
+    /** A bathhouse of the setup's eight numbers, with guests a, b, c and so on of these ages. */
+    static HotSteps houseOf(String numbers, int... ages) {
+        StringBuilder setup = new StringBuilder("bath " + numbers);
+        for (int i = 0; i < ages.length; i++) {
+            setup.append(";guest ").append((char) ('a' + i)).append(' ').append(ages[i]);
+        }
+        return house(setup.toString());
+    }
+
+    /** The guests from 0 on enter. */
+    static void enter(HotSteps x, int guests) {
+        for (int guest = 0; guest < guests; guest++) {
+            due("enter(" + guest + ")", x.enter(guest) >= 0 ? 1 : 0, 1);
+        }
+    }
+
+    /** Opens the four valves of a house by so much together. */
+    static void steam(HotSteps x, int sum) {
+        int left = sum;
+        for (int valve = 0; valve < 4; valve++) {
+            int part = Math.min(9, left);
+            x.valve(valve, part);
+            left -= part;
+        }
+    }
+
+    /** Brings HEAT to a number by four valves, and opens them so that it stays. */
+    static void heatTo(HotSteps x, int heat) {
+        for (int i = 0; i < 30 && x.size(10) != heat; i++) {
+            int now = x.size(10);
+            steam(x, Math.max(0, Math.min(36, heat - now + 3 + now / 20)));
+            x.waits(1);
+        }
+        due("HEAT brought to " + heat, x.size(10), heat);
+        steam(x, 3 + heat / 20);
+    }
+
+    /** Brings TIME to a number that is not behind it, in few calls. */
+    static void timeTo(HotSteps x, int time) {
+        int left = time - x.size(9);
+        while (left >= 60) {
+            int hours = Math.min(20, left / 60);
+            play(x, "again " + hours + "(wait 60;);");
+            left -= 60 * hours;
+        }
+        if (left > 0) {
+            x.waits(left);
+        }
+        due("TIME brought to " + time, x.size(9), time);
+    }
+
     static String report(HotSteps x) {
         int length = x.report();
         StringBuilder signs = new StringBuilder();
@@ -143,7 +216,8 @@ final class Check {
         for (int what = 0; what <= 15; what++) {
             all.append(x.size(what)).append(' ');
         }
-        for (int guest = 0; guest < x.size(0); guest++) {
+        int guests = x.size(0);
+        for (int guest = 0; guest < guests; guest++) {
             all.append("\nguest ");
             for (int what = 0; what <= 8; what++) {
                 all.append(x.guest(guest, what)).append(' ');
@@ -152,22 +226,26 @@ final class Check {
                 all.append(x.letter(guest, i)).append(' ');
             }
         }
-        for (int towel = 0; towel < x.size(3); towel++) {
+        int towels = x.size(3);
+        for (int towel = 0; towel < towels; towel++) {
             all.append("\ntowel ");
             for (int what = 0; what <= 3; what++) {
                 all.append(x.towel(towel, what)).append(' ');
             }
         }
+        int pegs = x.size(2);
         all.append("\npegs ");
-        for (int peg = 0; peg < x.size(2); peg++) {
+        for (int peg = 0; peg < pegs; peg++) {
             all.append(x.peg(peg)).append(' ');
         }
+        int lockers = x.size(1);
         all.append("\nlockers ");
-        for (int locker = 0; locker < x.size(1); locker++) {
+        for (int locker = 0; locker < lockers; locker++) {
             all.append(x.locker(locker)).append(' ');
         }
+        int valves = x.size(4);
         all.append("\nopenings ");
-        for (int valve = 0; valve < x.size(4); valve++) {
+        for (int valve = 0; valve < valves; valve++) {
             all.append(x.opening(valve)).append(' ');
         }
         all.append("\naccounts ");

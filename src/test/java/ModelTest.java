@@ -1,6 +1,6 @@
 import java.util.Random;
 
-/** Random runs of up to 512 calls, each answered by HotSteps and by the Model. Always the same runs. */
+/** Random runs of 512 calls, each answered by HotSteps and by the Model. Always the same runs. */
 public final class ModelTest {
     private static final String[] NAMES = {"ada", "ben", "cai", "dov", "eli", "a", "b", "guest", "enter", "again", "zzzzzz", "wait", "fay", "gus",
         "hal", "ida", "jo", "kim", "lea", "mo"};
@@ -8,6 +8,9 @@ public final class ModelTest {
         "driest", "letter", "find", "why", "highest", "account", "gap", "meanWet", "heatBits", "heatIn", "downIn", "dryIn", "silenceIn", "ifValve",
         "enter", "sit", "hall", "hang", "take", "leave", "speak", "wash", "valve", "waits", "set", "report", "reportByte", "undo", "save", "restore"};
     private static final int[] CHANGES = {25, 25, 26, 26, 26, 26, 27, 27, 28, 29, 30, 31, 32, 33, 33, 34, 34, 34, 35, 38, 39, 40};
+
+    private static final int[] QUESTIONS = {4, 5, 5, 5, 5, 6, 6, 6, 7, 7, 8, 9, 10, 10, 11, 12, 14, 14, 14, 14, 15, 16, 17, 18, 19, 20, 21, 21, 22, 22, 23, 24};
+    private static final int MOST_CALLS = 512;
 
     private final Random random;
     private final int run;
@@ -21,7 +24,7 @@ public final class ModelTest {
     }
 
     public static void main(String[] args) {
-        int runs = args.length > 0 ? Integer.parseInt(args[0]) : 400;
+        int runs = args.length > 0 ? Integer.parseInt(args[0]) : 3000;
         for (int run = 1; run <= runs; run++) {
             new ModelTest(run).go();
         }
@@ -39,7 +42,8 @@ public final class ModelTest {
             both(1, 0, 0, 0);
         }
         int before = -1;
-        while (calls < 500) {
+        int lastChange = any(40, 470);
+        while (calls < lastChange) {
             if (random.nextInt(25) == 0) {
                 feedText(random.nextInt(4) == 0 ? NAMES[any(0, NAMES.length - 1)] : random.nextInt(12) == 0 ? setup(true) : script());
                 both(13, 0, 0, 0);
@@ -54,18 +58,27 @@ public final class ModelTest {
                 call = before >= 0 ? before : 34;
             }
             before = call;
-            int a = argument(call, 0);
-            int b = argument(call, 1);
-            for (int i = 0; i < 12 && random.nextInt(9) > 0 && !isPossible(call, a, b); i++) {
-                a = argument(call, 0);
-                b = argument(call, 1);
-            }
-            both(call, a, b, argument(call, 2));
-            if (random.nextInt(20) == 0) {
-                lookAtAll();
-            }
+            ask(call);
         }
-        lookAtAll();
+        lookAround();
+    }
+
+    private void ask(int call) {
+        int a = argument(call, 0);
+        int b = argument(call, 1);
+        for (int i = 0; i < 12 && random.nextInt(9) > 0 && !isPossible(call, a, b); i++) {
+            a = argument(call, 0);
+            b = argument(call, 1);
+        }
+        both(call, a, b, argument(call, 2));
+    }
+
+    /** Asks up to the 512th call: the report, its bytes, and what else there is to ask. */
+    private void lookAround() {
+        both(36, 0, 0, 0);
+        while (calls < MOST_CALLS) {
+            ask(random.nextInt(5) == 0 ? 37 : QUESTIONS[any(0, QUESTIONS.length - 1)]);
+        }
     }
 
     private boolean isPossible(int call, int a, int b) {
@@ -186,7 +199,7 @@ public final class ModelTest {
     }
 
     private void feedText(String text) {
-        for (int from = 0; from < text.length(); from += 20) {
+        for (int from = 0; from < text.length() && calls < MOST_CALLS; from += 20) {
             int[] five = new int[5];
             for (int i = 0; i < 20; i++) {
                 int sign = from + i < text.length() ? text.charAt(from + i) : 0;
@@ -198,48 +211,13 @@ public final class ModelTest {
     }
 
     private void both(int call, int a, int b, int c) {
+        if (calls >= MOST_CALLS) {
+            return;
+        }
         calls++;
         String got = answer(x, call, a, b, c);
         String want = answer(m, call, a, b, c);
         Check.dueText("run " + run + ", call " + calls + ": " + CALLS[call] + "(" + a + ", " + b + ", " + c + ")", got, want);
-    }
-
-    private void lookAtAll() {
-        StringBuilder got = new StringBuilder();
-        StringBuilder want = new StringBuilder();
-        HotSteps y = x;
-        for (int call : new int[] {4, 5, 6, 7, 8, 9, 10, 16}) {
-            for (int a = -1; a <= 17; a++) {
-                int last = call == 5 || call == 6 || call == 10 ? 9 : 0;
-                for (int b = 0; b <= last; b++) {
-                    got.append(answer(y, call, a, b, 0)).append(' ');
-                    want.append(answer(m, call, a, b, 0)).append(' ');
-                }
-            }
-        }
-        for (int guest = 0; guest < m.size(0); guest++) {
-            for (int deed = -1; deed <= 57; deed++) {
-                for (int depth = 0; depth < 2; depth++) {
-                    got.append(answer(y, 14, guest, deed, depth)).append(' ');
-                    want.append(answer(m, 14, guest, deed, depth)).append(' ');
-                }
-            }
-            got.append(answer(y, 21, guest, 0, 0)).append(' ').append(answer(y, 15, guest, 0, 0)).append(' ');
-            want.append(answer(m, 21, guest, 0, 0)).append(' ').append(answer(m, 15, guest, 0, 0)).append(' ');
-        }
-        for (int towel = 0; towel < m.size(3); towel++) {
-            got.append(answer(y, 22, towel, 0, 0)).append(' ');
-            want.append(answer(m, 22, towel, 0, 0)).append(' ');
-        }
-        for (int call : new int[] {11, 17, 18, 19, 23}) {
-            got.append(answer(y, call, 0, 0, 0)).append(' ');
-            want.append(answer(m, call, 0, 0, 0)).append(' ');
-        }
-        Check.dueText("run " + run + ", all behind call " + calls, got.toString(), want.toString());
-        both(36, 0, 0, 0);
-        for (int i = -1; i <= m.report(); i++) {
-            Check.due("run " + run + " reportByte(" + i + ")", x.reportByte(i), m.reportByte(i));
-        }
     }
 
     private static String answer(HotSteps x, int call, int a, int b, int c) {

@@ -1,3 +1,7 @@
+import java.util.List;
+import java.util.function.IntSupplier;
+import java.util.function.ToIntFunction;
+
 /** Each promise by its number: ordinary inputs, the edges that the document names, wrong inputs. */
 public final class PromiseTest {
     private static final int NONE = HotSteps.NONE;
@@ -9,57 +13,57 @@ public final class PromiseTest {
     private static final String HOT = "valve 0 9; valve 1 9; valve 2 9; valve 3 9; wait 3;";
 
     public static void main(String[] args) {
-        promise1NewObject();
-        promise2Feed();
-        promise3Load();
-        promise3LoadErrors();
-        promise4Play();
-        promise4PlayEnds();
-        promise4PlayErrors();
-        promise5ErrorPosition();
-        promise6Size();
-        promise7Guest();
-        promise8Towel();
-        promise9Peg();
-        promise10Locker();
-        promise11Opening();
-        promise12Step();
-        promise13Driest();
-        promise14Letter();
-        promise15Find();
-        promise16WhyEnterAndLeave();
-        promise16WhySit();
-        promise16CauseBesideItself();
-        promise16WhyHangAndTake();
-        promise16WhyRange();
-        promise17Highest();
-        promise18Account();
-        promise19Gap();
-        promise20MeanWet();
-        promise21HeatBits();
-        promise22HeatIn();
-        promise23DownIn();
-        promise24DryIn();
-        promise25SilenceIn();
-        promise26IfValve();
-        promise27Enter();
-        promise28Sit();
-        promise29Hall();
-        promise30Hang();
-        promise31Take();
-        promise32Leave();
-        promise33Speak();
-        promise34Wash();
-        promise35Valve();
-        promise36Waits();
-        promise36Minute();
-        promise37Set();
-        promise38Report();
-        promise39ReportByte();
-        promise40Undo();
-        promise41Save();
-        promise42Restore();
-        fullHouse();
+        Check.test("promise1NewObject", PromiseTest::promise1NewObject);
+        Check.test("promise2Feed", PromiseTest::promise2Feed);
+        Check.test("promise3Load", PromiseTest::promise3Load);
+        Check.test("promise3LoadErrors", PromiseTest::promise3LoadErrors);
+        Check.test("promise4Play", PromiseTest::promise4Play);
+        Check.test("promise4PlayEnds", PromiseTest::promise4PlayEnds);
+        Check.test("promise4PlayErrors", PromiseTest::promise4PlayErrors);
+        Check.test("promise5ErrorPosition", PromiseTest::promise5ErrorPosition);
+        Check.test("promise6Size", PromiseTest::promise6Size);
+        Check.test("promise7Guest", PromiseTest::promise7Guest);
+        Check.test("promise8Towel", PromiseTest::promise8Towel);
+        Check.test("promise9Peg", PromiseTest::promise9Peg);
+        Check.test("promise10Locker", PromiseTest::promise10Locker);
+        Check.test("promise11Opening", PromiseTest::promise11Opening);
+        Check.test("promise12Step", PromiseTest::promise12Step);
+        Check.test("promise13Driest", PromiseTest::promise13Driest);
+        Check.test("promise14Letter", PromiseTest::promise14Letter);
+        Check.test("promise15Find", PromiseTest::promise15Find);
+        Check.test("promise16WhyEnterAndLeave", PromiseTest::promise16WhyEnterAndLeave);
+        Check.test("promise16WhySit", PromiseTest::promise16WhySit);
+        Check.test("promise16CauseBesideItself", PromiseTest::promise16CauseBesideItself);
+        Check.test("promise16WhyHangAndTake", PromiseTest::promise16WhyHangAndTake);
+        Check.test("promise16WhyRange", PromiseTest::promise16WhyRange);
+        Check.test("promise17Highest", PromiseTest::promise17Highest);
+        Check.test("promise18Account", PromiseTest::promise18Account);
+        Check.test("promise19Gap", PromiseTest::promise19Gap);
+        Check.test("promise20MeanWet", PromiseTest::promise20MeanWet);
+        Check.test("promise21HeatBits", PromiseTest::promise21HeatBits);
+        Check.test("promise22HeatIn", PromiseTest::promise22HeatIn);
+        Check.test("promise23DownIn", PromiseTest::promise23DownIn);
+        Check.test("promise24DryIn", PromiseTest::promise24DryIn);
+        Check.test("promise25SilenceIn", PromiseTest::promise25SilenceIn);
+        Check.test("promise26IfValve", PromiseTest::promise26IfValve);
+        Check.test("promise27Enter", PromiseTest::promise27Enter);
+        Check.test("promise28Sit", PromiseTest::promise28Sit);
+        Check.test("promise29Hall", PromiseTest::promise29Hall);
+        Check.test("promise30Hang", PromiseTest::promise30Hang);
+        Check.test("promise31Take", PromiseTest::promise31Take);
+        Check.test("promise32Leave", PromiseTest::promise32Leave);
+        Check.test("promise33Speak", PromiseTest::promise33Speak);
+        Check.test("promise34Wash", PromiseTest::promise34Wash);
+        Check.test("promise35Valve", PromiseTest::promise35Valve);
+        Check.test("promise36Waits", PromiseTest::promise36Waits);
+        Check.test("promise36Minute", PromiseTest::promise36Minute);
+        Check.test("promise37Set", PromiseTest::promise37Set);
+        Check.test("promise38Report", PromiseTest::promise38Report);
+        Check.test("promise39ReportByte", PromiseTest::promise39ReportByte);
+        Check.test("promise40Undo", PromiseTest::promise40Undo);
+        Check.test("promise41Save", PromiseTest::promise41Save);
+        Check.test("promise42Restore", PromiseTest::promise42Restore);
+        Check.test("fullHouse", PromiseTest::fullHouse);
         Check.end("PromiseTest");
     }
 
@@ -100,6 +104,15 @@ public final class PromiseTest {
 
     private static void due(String call, long got, long want) {
         Check.due(call, got, want);
+    }
+
+    /** Refused with this code, counted and not recorded; that nothing else changes is looked at by the tests of the edges. */
+    private static void refused(HotSteps x, String call, IntSupplier run, int code) {
+        int account = x.account(9);
+        int changes = x.size(16);
+        due(call, run.getAsInt(), code);
+        due("account(9) behind " + call, x.account(9), account + 1);
+        due("size(16) behind " + call, x.size(16), changes);
     }
 
     private static void promise1NewObject() {
@@ -199,7 +212,7 @@ public final class PromiseTest {
         }
         due("3: the report stays", x.reportByte(0), first);
         due("3: nothing to undo", x.undo(), NONE);
-        Check.findsNothing(x, "3: restore(0)", () -> x.restore(0));
+        Check.isNotFound("3: restore(0)", () -> x.restore(0));
         due("3: the buffer is empty", x.feed(0, 0, 0, 0, 0), 0);
         due("3: age of p", x.guest(15, 0), 99);
         due("3: without guests", Check.load(x, " bath\n1 1 0 1 1 1 2 0 \n"), 0);
@@ -211,62 +224,62 @@ public final class PromiseTest {
     }
 
     private static void promise3LoadErrors() {
-        HotSteps x = new HotSteps();
-        x.enter(0);
-        x.save(1);
-        error3(x, "", 1, 0);
-        error3(x, "   ", 1, 3);
-        error3(x, "Bath 4", 1, 0);
-        error3(x, "guest 4", 1, 0);
-        error3(x, "bathe 4", 1, 0);
-        error3(x, "math 4", 1, 0);
-        error3(x, "bats 4", 1, 0);
-        error3(x, "bath 0", 2, 5);
-        error3(x, "bath 13", 2, 5);
-        error3(x, "bath -1", 1, 5);
-        error3(x, "bath 99999999999999999999", 2, 5);
-        error3(x, "bath 4294967297", 2, 5);
-        error3(x, "bath 1 0", 2, 7);
-        error3(x, "bath 1 17", 2, 7);
-        error3(x, "bath 1 5 6", 2, 9);
-        error3(x, "bath 1 1 1 0", 2, 11);
-        error3(x, "bath 1 1 1 5", 2, 11);
-        error3(x, "bath 1 1 1 1 0", 2, 13);
-        error3(x, "bath 1 1 1 1 7", 2, 13);
-        error3(x, "bath 1 1 1 1 1 0", 2, 15);
-        error3(x, "bath 1 1 1 1 1 10", 2, 15);
-        error3(x, "bath 1 1 1 1 1 1 1", 2, 17);
-        error3(x, "bath 1 1 1 1 1 1 61", 2, 17);
-        error3(x, "bath 1 1 1 1 1 1 2 31", 2, 19);
+        error3("", 1, 0);
+        error3("   ", 1, 3);
+        error3("Bath 4", 1, 0);
+        error3("guest 4", 1, 0);
+        error3("bathe 4", 1, 0);
+        error3("math 4", 1, 0);
+        error3("bats 4", 1, 0);
+        error3("bath 0", 2, 5);
+        error3("bath 13", 2, 5);
+        error3("bath -1", 1, 5);
+        error3("bath 99999999999999999999", 2, 5);
+        error3("bath 4294967297", 2, 5);
+        error3("bath 1 0", 2, 7);
+        error3("bath 1 17", 2, 7);
+        error3("bath 1 5 6", 2, 9);
+        error3("bath 1 1 1 0", 2, 11);
+        error3("bath 1 1 1 5", 2, 11);
+        error3("bath 1 1 1 1 0", 2, 13);
+        error3("bath 1 1 1 1 7", 2, 13);
+        error3("bath 1 1 1 1 1 0", 2, 15);
+        error3("bath 1 1 1 1 1 10", 2, 15);
+        error3("bath 1 1 1 1 1 1 1", 2, 17);
+        error3("bath 1 1 1 1 1 1 61", 2, 17);
+        error3("bath 1 1 1 1 1 1 2 31", 2, 19);
         String whole = "bath 1 1 1 1 1 1 2 0";
-        error3(x, whole + ";", 1, 21);
-        error3(x, whole + " ; ", 1, 23);
-        error3(x, whole + " 1", 1, 21);
-        error3(x, whole + ")", 1, 20);
-        error3(x, whole + ";guests a 1", 1, 21);
-        error3(x, whole + ";guest", 1, 26);
-        error3(x, whole + ";guest 1", 1, 27);
-        error3(x, whole + ";guest abcdefg 1", 2, 27);
-        error3(x, whole + ";guest a b", 1, 29);
-        error3(x, whole + ";guest a 100", 2, 29);
-        error3(x, whole + ";guest a\t1", 1, 28);
-        error3(x, whole + ";guest \u00e9 1", 1, 27);
-        error3(x, whole + ";guest a 1;guest b 1;guest a 100", 3, 47);
-        error3(x, whole + ";guest a 1;;", 1, 31);
-        error3(x, whole + SIXTEEN + ";guest", 4, 20 + SIXTEEN.length() + 1);
-        error3(x, whole + SIXTEEN + "; guest a 100", 4, 20 + SIXTEEN.length() + 2);
-        error3(x, whole + SIXTEEN + ";guess", 1, 20 + SIXTEEN.length() + 1);
-        error3(x, whole + SIXTEEN + ";", 1, 20 + SIXTEEN.length() + 1);
-        due("3: still there", x.restore(1), 0);
+        error3(whole + ";", 1, 21);
+        error3(whole + " ; ", 1, 23);
+        error3(whole + " 1", 1, 21);
+        error3(whole + ")", 1, 20);
+        error3(whole + ";guests a 1", 1, 21);
+        error3(whole + ";guest", 1, 26);
+        error3(whole + ";guest 1", 1, 27);
+        error3(whole + ";guest abcdefg 1", 2, 27);
+        error3(whole + ";guest a b", 1, 29);
+        error3(whole + ";guest a 100", 2, 29);
+        error3(whole + ";guest a\t1", 1, 28);
+        error3(whole + ";guest \u00e9 1", 1, 27);
+        error3(whole + ";guest a 1;guest b 1;guest a 100", 3, 47);
+        error3(whole + ";guest a 1;;", 1, 31);
+        error3(whole + SIXTEEN + ";guest", 4, 20 + SIXTEEN.length() + 1);
+        error3(whole + SIXTEEN + "; guest a 100", 4, 20 + SIXTEEN.length() + 2);
+        error3(whole + SIXTEEN + ";guess", 1, 20 + SIXTEEN.length() + 1);
+        error3(whole + SIXTEEN + ";", 1, 20 + SIXTEEN.length() + 1);
     }
 
     /** A setup with an error changes nothing but the buffer and the error position. */
-    private static void error3(HotSteps x, String setup, int code, int at) {
+    private static void error3(String setup, int code, int at) {
+        HotSteps x = new HotSteps();
+        x.enter(0);
+        x.save(1);
         String before = Check.look(x);
         due("3: load of '" + setup + "'", Check.load(x, setup), -20 - code);
         due("3: errorPosition of '" + setup + "'", x.errorPosition(), at);
         Check.dueText("3: all behind '" + setup + "'", Check.look(x), before);
         due("3: the buffer behind '" + setup + "'", x.feed(0, 0, 0, 0, 0), 0);
+        due("3: restore(1) behind '" + setup + "'", x.restore(1), 0);
     }
 
     private static void promise4Play() {
@@ -330,58 +343,58 @@ public final class PromiseTest {
     }
 
     private static void promise4PlayErrors() {
-        HotSteps x = new HotSteps();
-        x.enter(0);
-        error4(x, "enter", 1, 5);
-        error4(x, "enter ada", 1, 9);
-        error4(x, "enter ada ", 1, 10);
-        error4(x, "enter 5;", 1, 6);
-        error4(x, "fait 5;", 1, 0);
-        error4(x, "waiu 5;", 1, 0);
-        error4(x, "wai 5;", 1, 0);
-        error4(x, "enter abcdefg;", 2, 6);
-        error4(x, "Enter ada;", 1, 0);
-        error4(x, "ada;", 1, 0);
-        error4(x, ";", 1, 0);
-        error4(x, "wash;;", 1, 5);
-        error4(x, "wash );", 1, 5);
-        error4(x, "wash wash;", 1, 5);
-        error4(x, "wash;)", 1, 5);
-        error4(x, "sit ada;", 1, 7);
-        error4(x, "sit ada 0;", 2, 8);
-        error4(x, "sit ada 7;", 2, 8);
-        error4(x, "hang ada 16;", 2, 9);
-        error4(x, "take ada 16;", 2, 9);
-        error4(x, "take ada ada;", 1, 9);
-        error4(x, "valve 4 0;", 2, 6);
-        error4(x, "valve 0 10;", 2, 8);
-        error4(x, "valve 0;", 1, 7);
-        error4(x, "wait 0;", 2, 5);
-        error4(x, "wait 61;", 2, 5);
-        error4(x, "wait ada;", 1, 5);
-        error4(x, "again 21 ();", 2, 6);
-        error4(x, "again ();", 1, 6);
-        error4(x, "again 2;", 1, 7);
-        error4(x, "again 2 (wash);", 1, 13);
-        error4(x, "again 2 (wash;", 1, 14);
-        error4(x, "again 2 (wash;)", 1, 15);
-        error4(x, "again 2 (wash;;)", 1, 14);
-        error4(x, "wash; again 2 ( again 3 ( again 4 ( wash; ); ); );", 4, 34);
-        error4(x, "again 2 ( again 3 ( again 4 wash; ); );", 1, 28);
-        error4(x, "wait 5; wash; wait 99; &", 2, 19);
-        error4(x, "wait 5; & wait 99;", 1, 8);
+        error4("enter", 1, 5);
+        error4("enter ada", 1, 9);
+        error4("enter ada ", 1, 10);
+        error4("enter 5;", 1, 6);
+        error4("fait 5;", 1, 0);
+        error4("waiu 5;", 1, 0);
+        error4("wai 5;", 1, 0);
+        error4("enter abcdefg;", 2, 6);
+        error4("Enter ada;", 1, 0);
+        error4("ada;", 1, 0);
+        error4(";", 1, 0);
+        error4("wash;;", 1, 5);
+        error4("wash );", 1, 5);
+        error4("wash wash;", 1, 5);
+        error4("wash;)", 1, 5);
+        error4("sit ada;", 1, 7);
+        error4("sit ada 0;", 2, 8);
+        error4("sit ada 7;", 2, 8);
+        error4("hang ada 16;", 2, 9);
+        error4("take ada 16;", 2, 9);
+        error4("take ada ada;", 1, 9);
+        error4("valve 4 0;", 2, 6);
+        error4("valve 0 10;", 2, 8);
+        error4("valve 0;", 1, 7);
+        error4("wait 0;", 2, 5);
+        error4("wait 61;", 2, 5);
+        error4("wait ada;", 1, 5);
+        error4("again 21 ();", 2, 6);
+        error4("again ();", 1, 6);
+        error4("again 2;", 1, 7);
+        error4("again 2 (wash);", 1, 13);
+        error4("again 2 (wash;", 1, 14);
+        error4("again 2 (wash;)", 1, 15);
+        error4("again 2 (wash;;)", 1, 14);
+        error4("wash; again 2 ( again 3 ( again 4 ( wash; ); ); );", 4, 34);
+        error4("again 2 ( again 3 ( again 4 wash; ); );", 1, 28);
+        error4("wait 5; wash; wait 99; &", 2, 19);
+        error4("wait 5; & wait 99;", 1, 8);
         String thirty = "wash;".repeat(30);
-        error4(x, thirty + "wash;", 4, 150);
-        error4(x, thirty + "again 99;", 4, 150);
-        error4(x, thirty + "washed;", 1, 150);
-        error4(x, thirty + "5", 1, 150);
-        error4(x, "wash;".repeat(28) + "again 1 ( wash; wait 99; );", 4, 156);
-        due("4: 30 orders", Check.play(x, thirty), 30);
-        due("4: 30 orders with again", Check.play(x, "wash;".repeat(28) + "again 1 ( wash; );"), 29);
+        error4(thirty + "wash;", 4, 150);
+        error4(thirty + "again 99;", 4, 150);
+        error4(thirty + "washed;", 1, 150);
+        error4(thirty + "5", 1, 150);
+        error4("wash;".repeat(28) + "again 1 ( wash; wait 99; );", 4, 156);
+        due("4: 30 orders", Check.play(new HotSteps(), thirty), 30);
+        due("4: 30 orders with again", Check.play(new HotSteps(), "wash;".repeat(28) + "again 1 ( wash; );"), 29);
     }
 
     /** A script with an error does nothing, and is not recorded. */
-    private static void error4(HotSteps x, String script, int code, int at) {
+    private static void error4(String script, int code, int at) {
+        HotSteps x = new HotSteps();
+        x.enter(0);
         String before = Check.look(x);
         due("4: play of '" + script + "'", Check.play(x, script), -20 - code);
         due("4: errorPosition of '" + script + "'", x.errorPosition(), at);
@@ -430,10 +443,10 @@ public final class PromiseTest {
             due("6: size(" + what + ") then", x.size(what), then[what]);
         }
         due("6: heat in 10 minutes", x.account(8), 10);
-        Check.refuses(x, "size(-1)", () -> x.size(-1));
-        Check.refuses(x, "size(17)", () -> x.size(17));
-        Check.refuses(x, "size(LEAST)", () -> x.size(LEAST));
-        Check.refuses(x, "size(MOST)", () -> x.size(MOST));
+        Check.isOutOfRange("size(-1)", () -> x.size(-1));
+        Check.isOutOfRange("size(17)", () -> x.size(17));
+        Check.isOutOfRange("size(LEAST)", () -> x.size(LEAST));
+        Check.isOutOfRange("size(MOST)", () -> x.size(MOST));
         x.set(8, 1);
         x.waits(1);
         due("6: silence is over", x.size(15), 0);
@@ -472,10 +485,10 @@ public final class PromiseTest {
         due("7: locker then", x.guest(1, 2), NONE);
         due("7: towel then", x.guest(1, 3), NONE);
         for (int bad : new int[] {-1, 6, LEAST, MOST}) {
-            Check.refuses(x, "guest(" + bad + ", 0)", () -> x.guest(bad, 0));
+            Check.isOutOfRange("guest(" + bad + ", 0)", () -> x.guest(bad, 0));
         }
         for (int bad : new int[] {-1, 9, LEAST, MOST}) {
-            Check.refuses(x, "guest(0, " + bad + ")", () -> x.guest(0, bad));
+            Check.isOutOfRange("guest(0, " + bad + ")", () -> x.guest(0, bad));
         }
     }
 
@@ -499,13 +512,13 @@ public final class PromiseTest {
         x.waits(5);
         due("8: nothing dries in the basket", x.towel(0, 0), 3);
         for (int bad : new int[] {-1, 5, LEAST, MOST}) {
-            Check.refuses(x, "towel(" + bad + ", 0)", () -> x.towel(bad, 0));
+            Check.isOutOfRange("towel(" + bad + ", 0)", () -> x.towel(bad, 0));
         }
         for (int bad : new int[] {-1, 4, LEAST, MOST}) {
-            Check.refuses(x, "towel(0, " + bad + ")", () -> x.towel(0, bad));
+            Check.isOutOfRange("towel(0, " + bad + ")", () -> x.towel(0, bad));
         }
         HotSteps y = Check.house("bath 1 1 0 1 1 1 2 0");
-        Check.refuses(y, "towel(0, 0) without any", () -> y.towel(0, 0));
+        Check.isOutOfRange("towel(0, 0) without any", () -> y.towel(0, 0));
     }
 
     private static void promise9Peg() {
@@ -519,7 +532,7 @@ public final class PromiseTest {
         x.hang(3, 5);
         due("9: hung", x.peg(5), 0);
         for (int bad : new int[] {-1, 6, LEAST, MOST}) {
-            Check.refuses(x, "peg(" + bad + ")", () -> x.peg(bad));
+            Check.isOutOfRange("peg(" + bad + ")", () -> x.peg(bad));
         }
     }
 
@@ -534,7 +547,7 @@ public final class PromiseTest {
         due("10: free then", x.locker(0), NONE);
         due("10: key of 1 stays", x.locker(1), 1);
         for (int bad : new int[] {-1, 4, LEAST, MOST}) {
-            Check.refuses(x, "locker(" + bad + ")", () -> x.locker(bad));
+            Check.isOutOfRange("locker(" + bad + ")", () -> x.locker(bad));
         }
     }
 
@@ -544,7 +557,7 @@ public final class PromiseTest {
         due("11: opening(0)", x.opening(0), 0);
         due("11: opening(1)", x.opening(1), 7);
         for (int bad : new int[] {-1, 2, LEAST, MOST}) {
-            Check.refuses(x, "opening(" + bad + ")", () -> x.opening(bad));
+            Check.isOutOfRange("opening(" + bad + ")", () -> x.opening(bad));
         }
     }
 
@@ -572,10 +585,10 @@ public final class PromiseTest {
         due("12: temperature 70", x.step(3, 1), 70);
         due("12: 70 is not above 70", x.step(3, 4), 2);
         for (int bad : new int[] {0, -1, 4, LEAST, MOST}) {
-            Check.refuses(x, "step(" + bad + ", 0)", () -> x.step(bad, 0));
+            Check.isOutOfRange("step(" + bad + ", 0)", () -> x.step(bad, 0));
         }
         for (int bad : new int[] {-1, 5, LEAST, MOST}) {
-            Check.refuses(x, "step(1, " + bad + ")", () -> x.step(1, bad));
+            Check.isOutOfRange("step(1, " + bad + ")", () -> x.step(1, bad));
         }
     }
 
@@ -630,7 +643,7 @@ public final class PromiseTest {
         due("14: behind q", x.letter(1, 1), NONE);
         due("14: q below", x.letter(1, -1), NONE);
         for (int bad : new int[] {-1, 2, LEAST, MOST}) {
-            Check.refuses(x, "letter(" + bad + ", 0)", () -> x.letter(bad, 0));
+            Check.isOutOfRange("letter(" + bad + ", 0)", () -> x.letter(bad, 0));
         }
     }
 
@@ -783,20 +796,20 @@ public final class PromiseTest {
     private static void promise16WhyRange() {
         HotSteps x = new HotSteps();
         for (int bad : new int[] {-1, 5, LEAST, MOST}) {
-            Check.refuses(x, "why(" + bad + ", 0, 0)", () -> x.why(bad, 0, 0));
+            Check.isOutOfRange("why(" + bad + ", 0, 0)", () -> x.why(bad, 0, 0));
         }
         for (int bad : new int[] {-1, 2, 9, 10, 15, 16, 19, 26, 35, 39, 46, 55, 56, LEAST, LEAST + 12, LEAST + 41, MOST}) {
-            Check.refuses(x, "why(0, " + bad + ", 0)", () -> x.why(0, bad, 0));
+            Check.isOutOfRange("why(0, " + bad + ", 0)", () -> x.why(0, bad, 0));
         }
         for (int bad : new int[] {-1, 2, LEAST, MOST}) {
-            Check.refuses(x, "why(0, 0, " + bad + ")", () -> x.why(0, 0, bad));
+            Check.isOutOfRange("why(0, 0, " + bad + ")", () -> x.why(0, 0, bad));
         }
         HotSteps y = Check.house("bath 1 16 1 1 6 1 2 0; guest a 1");
         due("16: last step", y.why(0, 16, 0), 5);
         due("16: last peg to hang", y.why(0, 35, 0), 5);
         due("16: last peg to take", y.why(0, 55, 0), 5);
-        Check.refuses(y, "why(0, 36, 0)", () -> y.why(0, 36, 0));
-        Check.refuses(y, "why(0, 17, 0)", () -> y.why(0, 17, 0));
+        Check.isOutOfRange("why(0, 36, 0)", () -> y.why(0, 36, 0));
+        Check.isOutOfRange("why(0, 17, 0)", () -> y.why(0, 17, 0));
     }
 
     private static void why(HotSteps x, int guest, int deed, int reason, int cause) {
@@ -821,7 +834,7 @@ public final class PromiseTest {
         x.sit(2, 1);
         due("17: b", x.highest(1), 2);
         for (int bad : new int[] {-1, 3, LEAST, MOST}) {
-            Check.refuses(x, "highest(" + bad + ")", () -> x.highest(bad));
+            Check.isOutOfRange("highest(" + bad + ")", () -> x.highest(bad));
         }
     }
 
@@ -850,7 +863,7 @@ public final class PromiseTest {
         x.waits(3);
         accounts(x, 4, 3, 2, 7, 2, 3, 4, 2, 6, 4);
         for (int bad : new int[] {-1, 10, LEAST, MOST}) {
-            Check.refuses(x, "account(" + bad + ")", () -> x.account(bad));
+            Check.isOutOfRange("account(" + bad + ")", () -> x.account(bad));
         }
     }
 
@@ -945,23 +958,14 @@ public final class PromiseTest {
         }
         x.valve(1, 9);
         due("22: at most 100", x.heatIn(200), 100);
-        Check.refuses(x, "heatIn(-1)", () -> x.heatIn(-1));
-        Check.refuses(x, "heatIn(201)", () -> x.heatIn(201));
-        Check.refuses(x, "heatIn(LEAST)", () -> x.heatIn(LEAST));
-        Check.refuses(x, "heatIn(MOST)", () -> x.heatIn(MOST));
-        late(x);
+        Check.isOutOfRange("heatIn(-1)", () -> x.heatIn(-1));
+        Check.isOutOfRange("heatIn(201)", () -> x.heatIn(201));
+        Check.isOutOfRange("heatIn(LEAST)", () -> x.heatIn(LEAST));
+        Check.isOutOfRange("heatIn(MOST)", () -> x.heatIn(MOST));
+        Check.timeTo(x, 9999);
         x.valve(1, 0);
         x.valve(0, 0);
         due("22: beyond 9999", x.heatIn(60) < x.size(10) ? 1 : 0, 1);
-    }
-
-    /** Brings TIME to 9999. */
-    private static void late(HotSteps x) {
-        while (x.size(9) + 60 <= 9999) {
-            x.waits(60);
-        }
-        x.waits(9999 - x.size(9));
-        due("time", x.size(9), 9999);
     }
 
     private static void promise23DownIn() {
@@ -985,11 +989,11 @@ public final class PromiseTest {
         due("23: the next time, none before", x.waits(then - 1), 0);
         due("23: the next time", x.waits(1), 1);
         for (int bad : new int[] {-1, 3, LEAST, MOST}) {
-            Check.refuses(x, "downIn(" + bad + ")", () -> x.downIn(bad));
+            Check.isOutOfRange("downIn(" + bad + ")", () -> x.downIn(bad));
         }
         HotSteps y = Check.house("bath 5 6 5 4 1 2 60 0; guest a 0");
         Check.play(y, "enter a; sit a 1; " + HOT);
-        late(y);
+        Check.timeTo(y, 9999);
         y.sit(0, 1);
         due("23: beyond 9999", y.downIn(0) > 0 ? 1 : 0, 1);
     }
@@ -1020,7 +1024,7 @@ public final class PromiseTest {
         x.wash();
         due("24: washed", x.dryIn(0), 0);
         for (int bad : new int[] {-1, 5, LEAST, MOST}) {
-            Check.refuses(x, "dryIn(" + bad + ")", () -> x.dryIn(bad));
+            Check.isOutOfRange("dryIn(" + bad + ")", () -> x.dryIn(bad));
         }
         HotSteps y = Check.house("bath 5 6 5 4 4 2 60 0; guest a 50");
         due("24: it hangs", Check.play(y, "enter a; sit a 1; wait 9; hall a; " + HOT + "wait 1; hang a 5;"), 11);
@@ -1029,7 +1033,7 @@ public final class PromiseTest {
         // 100, 92, 85, 78, 72, 66, 60, 54: dries from the 7th minute on
         due("24: heat in 6", y.heatIn(6), 60);
         due("24: once it is cooler", y.dryIn(0), 6 + 9);
-        late(x);
+        Check.timeTo(x, 9999);
         due("24: beyond 9999", x.dryIn(1), 0);
     }
 
@@ -1055,7 +1059,7 @@ public final class PromiseTest {
         x.set(8, 5);
         x.set(7, 60);
         due("25: 60", x.silenceIn(), 35);
-        late(x);
+        Check.timeTo(x, 9999);
         due("25: beyond 9999", x.silenceIn(), 21);
     }
 
@@ -1077,10 +1081,10 @@ public final class PromiseTest {
         due("26: at most 100", y.ifValve(3, 9), 100);
         due("26: at most 100, still", y.ifValve(3, 0), 100);
         for (int bad : new int[] {-1, 2, LEAST, MOST}) {
-            Check.refuses(x, "ifValve(" + bad + ", 0)", () -> x.ifValve(bad, 0));
+            Check.isOutOfRange("ifValve(" + bad + ", 0)", () -> x.ifValve(bad, 0));
         }
         for (int bad : new int[] {-1, 10, LEAST, MOST}) {
-            Check.refuses(x, "ifValve(0, " + bad + ")", () -> x.ifValve(0, bad));
+            Check.isOutOfRange("ifValve(0, " + bad + ")", () -> x.ifValve(0, bad));
         }
     }
 
@@ -1095,24 +1099,24 @@ public final class PromiseTest {
         due("27: the towel's peg", x.towel(0, 1), NONE);
         due("27: recorded", x.size(16), 1);
         due("27: locker 1", x.enter(1), 1);
-        Check.refused(x, "27: it is in", () -> x.enter(1), -2);
-        Check.refused(x, "27: no locker", () -> x.enter(0), -2);
+        refused(x, "27: it is in", () -> x.enter(1), -2);
+        refused(x, "27: no locker", () -> x.enter(0), -2);
         x.leave(2);
         due("27: lowest free locker", x.enter(0), 0);
         due("27: towel on the lowest peg", x.guest(0, 3), 2);
         due("27: account", x.account(0), 3);
         x.leave(1);
         due("27: no towel", x.size(13), 2);
-        Check.refused(x, "27: no towel", () -> x.enter(1), -2);
+        refused(x, "27: no towel", () -> x.enter(1), -2);
         x.wash();
         due("27: with a towel", x.enter(1), 1);
         x.waits(5);
         x.speak(1);
         x.speak(1);
         x.speak(1);
-        Check.refused(x, "27: sent", () -> x.enter(1), -2);
+        refused(x, "27: sent", () -> x.enter(1), -2);
         for (int bad : new int[] {-1, 3, LEAST, MOST}) {
-            Check.refuses(x, "enter(" + bad + ")", () -> x.enter(bad));
+            Check.isOutOfRange("enter(" + bad + ")", () -> x.enter(bad));
         }
         HotSteps y = Check.house("bath 2 4 3 4 1 2 5 30; guest a 0");
         Check.play(y, "enter a; sit a 1; " + HOT);
@@ -1124,75 +1128,75 @@ public final class PromiseTest {
 
     private static void promise28Sit() {
         HotSteps x = Check.house("bath 5 6 5 4 4 2 60 0; guest a 15; guest b 14; guest c 50; guest d 50");
-        Check.refused(x, "28: out", () -> x.sit(0, 1), -2);
+        refused(x, "28: out", () -> x.sit(0, 1), -2);
         Check.play(x, "enter a; enter b; enter c; enter d;");
         due("28: temperature", x.sit(0, 4), 54);
         due("28: there", x.guest(0, 1), 4);
         due("28: there again", x.sit(0, 4), 54);
         due("28: recorded", x.size(16), 3);
-        Check.refused(x, "28: too young", () -> x.sit(1, 4), -2);
+        refused(x, "28: too young", () -> x.sit(1, 4), -2);
         due("28: lower", x.sit(1, 3), 48);
         due("28: from step to step", x.sit(1, 2), 42);
         due("28: second", x.sit(2, 4), 54);
-        Check.refused(x, "28: no room", () -> x.sit(3, 4), -2);
+        refused(x, "28: no room", () -> x.sit(3, 4), -2);
         due("28: it does not count itself", x.sit(2, 4), 54);
         x.hang(3, 5);
-        Check.refused(x, "28: no towel", () -> x.sit(3, 1), -2);
+        refused(x, "28: no towel", () -> x.sit(3, 1), -2);
         Check.play(x, "valve 0 9; wait 1;");
         due("28: warmer", x.sit(0, 1), 41);
         for (int bad : new int[] {-1, 4, LEAST, MOST}) {
-            Check.refuses(x, "sit(" + bad + ", 1)", () -> x.sit(bad, 1));
+            Check.isOutOfRange("sit(" + bad + ", 1)", () -> x.sit(bad, 1));
         }
         for (int bad : new int[] {-1, 0, 5, LEAST, MOST}) {
-            Check.refuses(x, "sit(0, " + bad + ")", () -> x.sit(0, bad));
+            Check.isOutOfRange("sit(0, " + bad + ")", () -> x.sit(0, bad));
         }
     }
 
     private static void promise29Hall() {
         HotSteps x = new HotSteps();
-        Check.refused(x, "29: out", () -> x.hall(0), -3);
+        refused(x, "29: out", () -> x.hall(0), -3);
         x.enter(0);
-        Check.refused(x, "29: in the hall", () -> x.hall(0), -3);
+        refused(x, "29: in the hall", () -> x.hall(0), -3);
         x.sit(0, 3);
         due("29: its step", x.hall(0), 3);
         due("29: there", x.guest(0, 1), 0);
         due("29: it keeps its towel", x.guest(0, 3), 0);
         due("29: recorded", x.size(16), 3);
         for (int bad : new int[] {-1, 5, LEAST, MOST}) {
-            Check.refuses(x, "hall(" + bad + ")", () -> x.hall(bad));
+            Check.isOutOfRange("hall(" + bad + ")", () -> x.hall(bad));
         }
     }
 
     private static void promise30Hang() {
         HotSteps x = new HotSteps();
-        Check.refused(x, "30: out", () -> x.hang(0, 5), -2);
+        refused(x, "30: out", () -> x.hang(0, 5), -2);
         x.enter(0);
         x.enter(1);
-        Check.refused(x, "30: not free", () -> x.hang(1, 2), -2);
+        refused(x, "30: not free", () -> x.hang(1, 2), -2);
         due("30: the towel", x.hang(1, 5), 1);
         due("30: on the peg", x.peg(5), 1);
         due("30: its peg", x.towel(1, 1), 5);
         due("30: nobody's", x.towel(1, 2), NONE);
         due("30: without", x.guest(1, 3), NONE);
-        Check.refused(x, "30: no towel", () -> x.hang(1, 0), -2);
+        refused(x, "30: no towel", () -> x.hang(1, 0), -2);
         x.sit(0, 1);
-        Check.refused(x, "30: on a step", () -> x.hang(0, 0), -2);
+        refused(x, "30: on a step", () -> x.hang(0, 0), -2);
         due("30: recorded", x.size(16), 4);
         for (int bad : new int[] {-1, 5, LEAST, MOST}) {
-            Check.refuses(x, "hang(" + bad + ", 0)", () -> x.hang(bad, 0));
+            Check.isOutOfRange("hang(" + bad + ", 0)", () -> x.hang(bad, 0));
         }
         for (int bad : new int[] {-1, 6, LEAST, MOST}) {
-            Check.refuses(x, "hang(0, " + bad + ")", () -> x.hang(0, bad));
+            Check.isOutOfRange("hang(0, " + bad + ")", () -> x.hang(0, bad));
         }
     }
 
     private static void promise31Take() {
         HotSteps x = new HotSteps();
-        Check.refused(x, "31: out", () -> x.take(0, 1), -2);
+        refused(x, "31: out", () -> x.take(0, 1), -2);
         x.enter(0);
-        Check.refused(x, "31: has one", () -> x.take(0, 1), -2);
+        refused(x, "31: has one", () -> x.take(0, 1), -2);
         x.hang(0, 5);
-        Check.refused(x, "31: free", () -> x.take(0, 0), -2);
+        refused(x, "31: free", () -> x.take(0, 0), -2);
         due("31: the towel", x.take(0, 3), 3);
         due("31: with the guest", x.guest(0, 3), 3);
         due("31: the towel's guest", x.towel(3, 2), 0);
@@ -1202,20 +1206,20 @@ public final class PromiseTest {
         Check.play(x, "hang ada 3; wait 1;");
         due("31: a wet one, too", Check.play(x, "take ada 5; sit ada 1; wait 9; hall ada; hang ada 5; take ada 5;"), 6);
         for (int bad : new int[] {-1, 5, LEAST, MOST}) {
-            Check.refuses(x, "take(" + bad + ", 0)", () -> x.take(bad, 0));
+            Check.isOutOfRange("take(" + bad + ", 0)", () -> x.take(bad, 0));
         }
         for (int bad : new int[] {-1, 6, LEAST, MOST}) {
-            Check.refuses(x, "take(0, " + bad + ")", () -> x.take(0, bad));
+            Check.isOutOfRange("take(0, " + bad + ")", () -> x.take(0, bad));
         }
     }
 
     private static void promise32Leave() {
         HotSteps x = new HotSteps();
-        Check.refused(x, "32: out", () -> x.leave(0), -2);
+        refused(x, "32: out", () -> x.leave(0), -2);
         x.enter(0);
         x.enter(1);
         x.sit(1, 1);
-        Check.refused(x, "32: on a step", () -> x.leave(1), -2);
+        refused(x, "32: on a step", () -> x.leave(1), -2);
         x.waits(2);
         x.hall(1);
         due("32: its locker", x.leave(1), 1);
@@ -1231,13 +1235,13 @@ public final class PromiseTest {
         due("32: one in the basket", x.size(13), 1);
         due("32: account", x.account(1), 2);
         for (int bad : new int[] {-1, 5, LEAST, MOST}) {
-            Check.refuses(x, "leave(" + bad + ")", () -> x.leave(bad));
+            Check.isOutOfRange("leave(" + bad + ")", () -> x.leave(bad));
         }
     }
 
     private static void promise33Speak() {
         HotSteps x = new HotSteps();
-        Check.refused(x, "33: out", () -> x.speak(0), -4);
+        refused(x, "33: out", () -> x.speak(0), -4);
         x.enter(0);
         x.enter(1);
         due("33: no gong yet", x.speak(0), 0);
@@ -1264,7 +1268,7 @@ public final class PromiseTest {
         x.enter(1);
         due("33: warnings stay", x.guest(1, 5), 1);
         Check.play(x, "again 9 ( wait 60; );");
-        Check.refused(x, "33: on this day", () -> x.enter(0), -2);
+        refused(x, "33: on this day", () -> x.enter(0), -2);
         x.waits(20);
         due("33: on the next day", x.enter(0), 1);
         due("33: the day stays", x.guest(0, 8), 0);
@@ -1275,7 +1279,7 @@ public final class PromiseTest {
         due("33: day 1", x.guest(0, 8), 1);
         due("33: sent twice", x.account(2), 2);
         for (int bad : new int[] {-1, 5, LEAST, MOST}) {
-            Check.refuses(x, "speak(" + bad + ")", () -> x.speak(bad));
+            Check.isOutOfRange("speak(" + bad + ")", () -> x.speak(bad));
         }
     }
 
@@ -1304,10 +1308,10 @@ public final class PromiseTest {
         due("35: the other", x.valve(0, 4), 0);
         due("35: opening", x.opening(0), 4);
         for (int bad : new int[] {-1, 2, LEAST, MOST}) {
-            Check.refuses(x, "valve(" + bad + ", 0)", () -> x.valve(bad, 0));
+            Check.isOutOfRange("valve(" + bad + ", 0)", () -> x.valve(bad, 0));
         }
         for (int bad : new int[] {-1, 10, LEAST, MOST}) {
-            Check.refuses(x, "valve(0, " + bad + ")", () -> x.valve(0, bad));
+            Check.isOutOfRange("valve(0, " + bad + ")", () -> x.valve(0, bad));
         }
     }
 
@@ -1320,15 +1324,15 @@ public final class PromiseTest {
         due("36: gongs", x.account(7), 3);
         due("36: recorded", x.size(16), 2);
         for (int bad : new int[] {0, -1, 61, LEAST, MOST}) {
-            Check.refuses(x, "waits(" + bad + ")", () -> x.waits(bad));
+            Check.isOutOfRange("waits(" + bad + ")", () -> x.waits(bad));
         }
         while (x.size(9) < 9941) {
             x.waits(60);
         }
         due("36: time", x.size(9), 9961);
-        Check.refused(x, "36: above 9999", () -> x.waits(39), -5);
+        refused(x, "36: above 9999", () -> x.waits(39), -5);
         due("36: to 9999", x.waits(38), 0);
-        Check.refused(x, "36: no more", () -> x.waits(1), -5);
+        refused(x, "36: no more", () -> x.waits(1), -5);
         due("36: minutes then", x.account(8), 9999);
         due("36: gongs then", x.account(7), 499);
     }
@@ -1442,7 +1446,7 @@ public final class PromiseTest {
         int[][] bad = {{5, 5}, {9, 5}, {-1, 5}, {LEAST, 5}, {MOST, 5}, {6, 0}, {6, 10}, {6, -1}, {7, 1}, {7, 61}, {8, -1}, {8, 31},
             {6, MOST}, {7, LEAST}, {8, MOST}};
         for (int[] two : bad) {
-            Check.refuses(x, "set(" + two[0] + ", " + two[1] + ")", () -> x.set(two[0], two[1]));
+            Check.isOutOfRange("set(" + two[0] + ", " + two[1] + ")", () -> x.set(two[0], two[1]));
         }
         x.set(6, 2);
         Check.play(x, "enter ada; enter cai; sit ada 4; sit cai 4;");
@@ -1502,30 +1506,62 @@ public final class PromiseTest {
     private static void promise40Undo() {
         HotSteps x = new HotSteps();
         due("40: nothing", x.undo(), NONE);
-        String[] looks = new String[12];
-        Runnable[] changes = {() -> x.enter(0), () -> x.sit(0, 4), () -> x.valve(0, 9), () -> x.waits(22), () -> x.speak(0), () -> x.enter(1),
-            () -> x.speak(0), () -> x.speak(0), () -> x.wash(), () -> x.set(6, 1), () -> Check.play(x, "leave ben; wait 3;"), () -> x.hang(0, 0)};
-        int recorded = 0;
-        for (int i = 0; i < 11; i++) {
-            looks[i] = Check.lookAtState(x);
-            changes[i].run();
-            recorded++;
-            due("40: size(16)", x.size(16), Math.min(8, recorded));
+        for (int change = 0; change < 11; change++) {
+            changeOfEleven(x, change);
+            due("40: size(16)", x.size(16), Math.min(8, change + 1));
         }
-        changes[11].run();
+        x.hang(0, 0);
         due("40: the refused one is not recorded", x.size(16), 8);
         due("40: it is counted", x.account(9), 1);
         Check.put(x, "eli");
-        for (int i = 10; i >= 3; i--) {
-            due("40: undo", x.undo(), i - 3);
-            Check.dueText("40: as before change " + i, Check.lookAtState(x), looks[i]);
-            due("40: size(16)", x.size(16), i - 3);
+        for (int left = 7; left >= 0; left--) {
+            due("40: undo", x.undo(), left);
+            due("40: size(16)", x.size(16), left);
         }
         due("40: 8 and no more", x.undo(), NONE);
-        due("40: time", x.size(9), 0);
-        due("40: valve stays", x.opening(0), 9);
+        Check.dueText("40: as behind the first three", Check.lookAtState(x), Check.lookAtState(behindOfEleven(3)));
         due("40: account 9 stays", x.account(9), 1);
         due("40: the buffer stays", x.find(), 4);
+        undoSomeOfEleven();
+        undoOfSettings();
+        undoOfEach();
+        undoOfMinutes();
+    }
+
+    private static void changeOfEleven(HotSteps x, int change) {
+        switch (change) {
+            case 0: x.enter(0); break;
+            case 1: x.sit(0, 4); break;
+            case 2: x.valve(0, 9); break;
+            case 3: x.waits(22); break;
+            case 5: x.enter(1); break;
+            case 8: x.wash(); break;
+            case 9: x.set(6, 1); break;
+            case 10: Check.play(x, "leave ben; wait 3;"); break;
+            default: x.speak(0);
+        }
+    }
+
+    private static HotSteps behindOfEleven(int changes) {
+        HotSteps x = new HotSteps();
+        for (int change = 0; change < changes; change++) {
+            changeOfEleven(x, change);
+        }
+        return x;
+    }
+
+    private static void undoSomeOfEleven() {
+        for (int undone = 1; undone <= 8; undone++) {
+            HotSteps x = behindOfEleven(11);
+            for (int i = 0; i < undone; i++) {
+                x.undo();
+            }
+            Check.dueText("40: " + undone + " undone", Check.lookAtState(x), Check.lookAtState(behindOfEleven(11 - undone)));
+        }
+    }
+
+    private static void undoOfSettings() {
+        HotSteps x = new HotSteps();
         x.set(7, 9);
         x.set(8, 9);
         due("40: of settings", x.undo(), 1);
@@ -1538,23 +1574,31 @@ public final class PromiseTest {
         x.undo();
         x.set(8, 30);
         due("40: no gong any more", x.size(15), 0);
-        undoOfEach();
     }
 
-    /** Each change is undone at once, and with others behind it. */
-    private static void undoOfEach() {
+    private static HotSteps threeGuests() {
         HotSteps x = Check.house("bath 4 6 5 4 4 2 3 30; guest a 30; guest b 8; guest c 61");
         Check.play(x, "enter a; enter b; sit a 2; sit b 1; wait 3; speak a; speak a; speak b; hall b; hang b 5;");
-        String first = Check.lookAtState(x);
-        Runnable[] changes = {() -> x.enter(2), () -> x.sit(0, 4), () -> x.hall(0), () -> x.take(1, 3), () -> x.leave(1), () -> x.speak(0),
-            () -> x.speak(1), () -> x.valve(3, 9), () -> x.waits(5), () -> x.set(6, 1), () -> x.set(7, 7), () -> x.set(8, 0),
-            () -> Check.play(x, HOT)};
-        for (int i = 0; i < changes.length; i++) {
-            changes[i].run();
+        return x;
+    }
+
+    private static void undoOfEach() {
+        List<ToIntFunction<HotSteps>> changes = List.of(x -> x.enter(2), x -> x.sit(0, 4), x -> x.hall(0), x -> x.take(1, 3), x -> x.leave(1),
+            x -> x.speak(0), x -> x.speak(1), x -> x.valve(3, 9), x -> x.waits(5), x -> x.set(6, 1), x -> x.set(7, 7), x -> x.set(8, 0),
+            x -> Check.play(x, HOT));
+        for (int i = 0; i < changes.size(); i++) {
+            HotSteps x = threeGuests();
+            String first = Check.lookAtState(x);
+            due("40: change " + i + " is done", changes.get(i).applyAsInt(x) >= 0 ? 1 : 0, 1);
             due("40: change " + i + " changed something", Check.lookAtState(x).equals(first) ? 1 : 0, 0);
             x.undo();
             Check.dueText("40: change " + i + " undone", Check.lookAtState(x), first);
         }
+    }
+
+    private static void undoOfMinutes() {
+        HotSteps x = threeGuests();
+        String first = Check.lookAtState(x);
         Check.play(x, "sit a 4;" + HOT);
         String hot = Check.lookAtState(x);
         due("40: strain", x.guest(0, 4) > 0 ? 1 : 0, 1);
@@ -1578,7 +1622,7 @@ public final class PromiseTest {
         x.waits(1);
         due("41: in place", x.save(1), 8);
         for (int bad : new int[] {-1, 2, LEAST, MOST}) {
-            Check.refuses(x, "save(" + bad + ")", () -> x.save(bad));
+            Check.isOutOfRange("save(" + bad + ")", () -> x.save(bad));
         }
         due("41: slot 0 stays", x.restore(0), 0);
         due("41: slot 1", x.restore(1), 8);
@@ -1586,14 +1630,14 @@ public final class PromiseTest {
 
     private static void promise42Restore() {
         HotSteps x = new HotSteps();
-        Check.findsNothing(x, "42: restore(0)", () -> x.restore(0));
-        Check.findsNothing(x, "42: restore(1)", () -> x.restore(1));
+        Check.isNotFound("42: restore(0)", () -> x.restore(0));
+        Check.isNotFound("42: restore(1)", () -> x.restore(1));
         for (int bad : new int[] {-1, 2, LEAST, MOST}) {
-            Check.refuses(x, "restore(" + bad + ")", () -> x.restore(bad));
+            Check.isOutOfRange("restore(" + bad + ")", () -> x.restore(bad));
         }
         Check.play(x, "enter ada; enter ben; sit ada 4; wait 21; speak ada; valve 0 3; hang ben 0;");
         x.set(6, 3);
-        Check.refused(x, "42: refused", () -> x.hall(1), -3);
+        refused(x, "42: refused", () -> x.hall(1), -3);
         String saved = Check.lookAtState(x);
         due("42: save", x.save(1), 21);
         Check.play(x, "hall ada; leave ada; wait 60; wash; valve 1 5;");
@@ -1602,7 +1646,7 @@ public final class PromiseTest {
         x.set(8, 0);
         x.report();
         Check.put(x, "ben");
-        Check.refused(x, "42: refused again", () -> x.enter(1), -2);
+        refused(x, "42: refused again", () -> x.enter(1), -2);
         due("42: restore", x.restore(1), 21);
         Check.dueText("42: as it was", Check.lookAtState(x), saved);
         due("42: room", x.size(6), 3);
@@ -1616,7 +1660,7 @@ public final class PromiseTest {
         due("42: size(16)", x.size(16), 0);
         x.waits(9);
         due("42: the slot stays", x.restore(1), 21);
-        Check.findsNothing(x, "42: the other slot", () -> x.restore(0));
+        Check.isNotFound("42: the other slot", () -> x.restore(0));
         Check.dueText("42: as it was again", Check.lookAtState(x), saved);
         x.waits(1);
         due("42: what comes then can be undone", x.undo(), 0);
