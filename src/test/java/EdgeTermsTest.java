@@ -225,42 +225,35 @@ public final class EdgeTermsTest {
         }
     }
 
+    private static void heatBehind(int heat, int steam, int want) {
+        HotSteps x = Check.houseOf("1 1 1 4 1 1 2 0");
+        Check.heatTo(x, heat);
+        Check.steam(x, steam);
+        x.waits(1);
+        due("HEAT behind " + heat + " with " + steam, x.size(10), want);
+    }
+
     /** From 92 it becomes 7 less, so that steam of 15 makes 100. */
     private static void heatAtMost100() {
-        int[][] cases = {{14, 99}, {15, 100}, {16, 100}, {36, 100}};
-        for (int[] one : cases) {
-            HotSteps x = Check.houseOf("1 1 1 4 1 1 2 0");
-            Check.heatTo(x, 92);
-            Check.steam(x, one[0]);
-            x.waits(1);
-            due("HEAT behind 92 with " + one[0], x.size(10), one[1]);
-        }
-        HotSteps x = Check.houseOf("1 1 1 4 1 1 2 0");
-        Check.heatTo(x, 100);
-        Check.steam(x, 36);
-        x.waits(1);
-        due("HEAT behind 100", x.size(10), 100);
+        heatBehind(92, 14, 99);
+        heatBehind(92, 15, 100);
+        heatBehind(92, 16, 100);
+        heatBehind(92, 36, 100);
+        heatBehind(100, 36, 100);
     }
 
     private static void heatAtLeast0() {
-        int[][] cases = {{4, 1}, {3, 0}, {2, 0}, {1, 0}, {0, 0}};
-        for (int[] one : cases) {
-            HotSteps x = Check.houseOf("1 1 1 4 1 1 2 0");
-            Check.heatTo(x, one[0]);
-            Check.steam(x, 0);
-            x.waits(1);
-            due("HEAT behind " + one[0], x.size(10), one[1]);
-        }
+        heatBehind(4, 0, 1);
+        heatBehind(3, 0, 0);
+        heatBehind(2, 0, 0);
+        heatBehind(1, 0, 0);
+        heatBehind(0, 0, 0);
     }
 
     private static void heatBy20() {
         int[][] cases = {{19, 16}, {20, 16}, {39, 35}, {40, 35}, {59, 54}, {60, 54}, {79, 73}, {80, 73}, {99, 92}, {100, 92}};
         for (int[] one : cases) {
-            HotSteps x = Check.houseOf("1 1 1 4 1 1 2 0");
-            Check.heatTo(x, one[0]);
-            Check.steam(x, 0);
-            x.waits(1);
-            due("HEAT behind " + one[0], x.size(10), one[1]);
+            heatBehind(one[0], 0, one[1]);
         }
     }
 
